@@ -34,20 +34,17 @@ public final class GrassField {
 
     private final Reader reader;
     private final State state;
-    private final State kept;
     private final Fight fight;
     private final Study study;
-    private final Ways ways;
-    private boolean hasImage;
+    /** Both are made when they are first asked for: most fields need neither. */
+    private Ways ways;
+    private State kept;
 
     public GrassField() {
         reader = new Reader();
         state = new State();
-        kept = new State();
         fight = new Fight(state);
         study = new Study(state);
-        ways = new Ways();
-        hasImage = false;
     }
 
     public int feed(int a, int b, int c, int d, int e) {
@@ -259,13 +256,16 @@ public final class GrassField {
     public int way(int gun, int what) throws IndexOutOfBoundsException, NoSuchElementException {
         needNumber(gun, state.guns.size);
         needQuestion(what, 2);
+        if (ways == null) {
+            ways = new Ways();
+        }
         study.refresh();
         study.fillWays(gun, ways);
         ways.solve();
         if (what == 0) {
             return ways.fewestHands();
         }
-        return what == 1 ? ways.soonest : ways.opening;
+        return what == 1 ? ways.soonest : ways.firstFind();
     }
 
     public int held(int side, int row, int off, boolean broke)
@@ -366,12 +366,14 @@ public final class GrassField {
     }
 
     public void image() {
+        if (kept == null) {
+            kept = new State();
+        }
         kept.become(state);
-        hasImage = true;
     }
 
     public boolean back() {
-        if (!hasImage) {
+        if (kept == null) {
             return false;
         }
         state.become(kept);
@@ -1446,13 +1448,12 @@ public final class GrassField {
         private final int[] from = new int[MOST_CASES];
         private final int[] till = new int[MOST_CASES];
         private final int[] onFoot = new int[MOST_CASES * MOST_CASES];
-        /** For a set of cases and the last one of it the earliest minute; NONE if it cannot be. */
-        private final int[] earliest = new int[SETS * MOST_CASES];
+        /** For a set of cases and one of it that is at its edge the best minute; NONE if it cannot be. */
+        private final int[] best = new int[SETS * MOST_CASES];
         /** 1 for a set that one hand can have shot. */
         private final int[] byOne = new int[SETS];
         private final int[] hands = new int[SETS];
         private int soonest;
-        private int opening;
 
         boolean isFull() {
             return size >= MOST_CASES;
@@ -1472,48 +1473,42 @@ public final class GrassField {
             size++;
         }
 
-        void solve() {
-            soonest = NONE;
-            opening = NONE;
-            Arrays.fill(byOne, 0);
-            for (int first = 0; first < size; first++) {
-                int ended = endWith(first);
-                if (ended != NONE && (soonest == NONE || ended < soonest)) {
-                    soonest = ended;
-                    opening = find[first];
-                }
+        private void clearBest() {
+            int used = (1 << size) * MOST_CASES;
+            for (int i = 0; i < used; i++) {
+                best[i] = NONE;
             }
         }
 
-        /** The earliest end of a row of all that begins with this one; a wait hides who began, so each is tried. */
-        private int endWith(int first) {
+        /** For each set and its last case the earliest minute; going from a case to another one directly is best. */
+        void solve() {
             int all = (1 << size) - 1;
-            for (int i = 0; i < (all + 1) * MOST_CASES; i++) {
-                earliest[i] = NONE;
+            clearBest();
+            for (int i = 0; i < size; i++) {
+                best[(1 << i) * MOST_CASES + i] = from[i];
             }
-            earliest[(1 << first) * MOST_CASES + first] = from[first];
-            for (int set = 1 << first; set <= all; set++) {
+            for (int set = 1; set <= all; set++) {
+                byOne[set] = 0;
                 for (int last = 0; last < size; last++) {
-                    if (earliest[set * MOST_CASES + last] != NONE) {
+                    if (best[set * MOST_CASES + last] != NONE) {
                         byOne[set] = 1;
                         goFrom(set, last);
                     }
                 }
             }
-            int ended = NONE;
+            soonest = NONE;
             for (int last = 0; last < size; last++) {
-                ended = sooner(ended, earliest[all * MOST_CASES + last]);
+                soonest = sooner(soonest, best[all * MOST_CASES + last]);
             }
-            return ended;
         }
 
         private void goFrom(int set, int last) {
-            int start = earliest[set * MOST_CASES + last];
+            int start = best[set * MOST_CASES + last];
             for (int i = 0; i < size; i++) {
                 int minute = Math.max(from[i], start + onFoot[last * MOST_CASES + i]);
                 if ((set >> i & 1) == 0 && minute <= till[i]) {
                     int goal = (set | 1 << i) * MOST_CASES + i;
-                    earliest[goal] = sooner(earliest[goal], minute);
+                    best[goal] = sooner(best[goal], minute);
                 }
             }
         }
@@ -1525,13 +1520,59 @@ public final class GrassField {
             return Math.min(a, b);
         }
 
+        /** Backwards from the end: for each set and its first case the latest minute that still leads there. */
+        int firstFind() {
+            if (soonest == NONE) {
+                return NONE;
+            }
+            int all = (1 << size) - 1;
+            clearBest();
+            for (int i = 0; i < size; i++) {
+                best[(1 << i) * MOST_CASES + i] = inTime(i, soonest);
+            }
+            for (int set = 1; set <= all; set++) {
+                for (int first = 0; first < size; first++) {
+                    if (best[set * MOST_CASES + first] != NONE) {
+                        comeTo(set, first);
+                    }
+                }
+            }
+            for (int first = 0; first < size; first++) {
+                if (best[all * MOST_CASES + first] != NONE) {
+                    return find[first];
+                }
+            }
+            return NONE;
+        }
+
+        private void comeTo(int set, int first) {
+            int start = best[set * MOST_CASES + first];
+            for (int i = 0; i < size; i++) {
+                if ((set >> i & 1) == 0) {
+                    int goal = (set | 1 << i) * MOST_CASES + i;
+                    best[goal] = Math.max(best[goal], inTime(i, start - onFoot[i * MOST_CASES + first]));
+                }
+            }
+        }
+
+        /** The latest minute of a case that is not behind a told one. */
+        private int inTime(int place, int minute) {
+            int latest = Math.min(till[place], minute);
+            return latest >= from[place] ? latest : NONE;
+        }
+
+        /** The hand that has the least case of a set has some part of it, the fewest others have the rest. */
         int fewestHands() {
+            if (soonest != NONE) {
+                return 1;
+            }
             int all = (1 << size) - 1;
             hands[0] = 0;
             for (int set = 1; set <= all; set++) {
+                int least = set & -set;
                 hands[set] = size;
-                for (int part = set; part > 0; part = part - 1 & set) {
-                    if (byOne[part] == 1) {
+                for (int part = set; part > 0; part = (part - 1) & set) {
+                    if (byOne[part] == 1 && (part & least) != 0) {
                         hands[set] = Math.min(hands[set], hands[set & ~part] + 1);
                     }
                 }
