@@ -93,6 +93,13 @@ public final class CasesTest {
         Check.is("unknown", x.later(2), 1);
         x.machine(4, 0);
         Check.is("only what is seen", x.later(0), 3);
+        x.found(0, 0, 1);
+        Check.is("gun 0 is not behind 1873", x.later(1), 2);
+        x.day(1870);
+        Check.is("gun 0 is of 1870", x.later(1), 4);
+        x.day(1869);
+        Check.is("all guns are behind 1869", x.later(1), 5);
+        Check.is("and gun 0 is not unknown", x.later(2), 1);
         Check.refuses("what 3", Check.NO_SUCH, () -> x.later(3));
         Check.refuses("what -1", Check.NO_SUCH, () -> x.later(-1));
     }
@@ -234,6 +241,19 @@ public final class CasesTest {
         GrassField hidden = new GrassField();
         hidden.found(0, 0, 1);
         Check.is("not seen", hidden.heaps(1, false), 0);
+        GrassField balls = walked();
+        balls.other(1, 0, 0, 1);
+        balls.found(3, 0, 1);
+        Check.is("a ball is no heap", balls.heaps(1, true), 3);
+        balls.found(0, 0, 1);
+        Check.is("the first cell of all", balls.heaps(1, true), 0);
+        Check.is("unknown first", unknownFirst().later(2), 1);
+    }
+
+    private static GrassField unknownFirst() {
+        GrassField x = walked();
+        x.found(0, 0, 1 << 15);
+        return x;
     }
 
     private static void lengths() {

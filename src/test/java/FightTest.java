@@ -184,6 +184,11 @@ public final class FightTest {
         between.person(2, 16 * 8 + 10, 0, -1);
         between.run(1);
         Check.is("between two foes, of cells that are as far the least", between.look(0, 1), 16 * 7 + 8);
+        Check.is("up and to the left", fled(8, 8, 9, 9), 16 * 7 + 7);
+        Check.is("to the left edge", fled(1, 5, 3, 5), 64);
+        Check.is("to the lowest row", fled(5, 14, 5, 12), 244);
+        Check.is("to the right edge", fled(14, 5, 12, 5), 16 * 4 + 15);
+        Check.is("to the highest row", fled(5, 1, 5, 3), 4);
         GrassField alone = new GrassField();
         alone.gun(0, 0, 1870, 1);
         Check.law(alone, "flee");
@@ -191,6 +196,12 @@ public final class FightTest {
         alone.run(3);
         Check.is("without a foe one stays", alone.look(0, 1), 100);
         Check.is("with one's fear", alone.look(0, 2), 3);
+    }
+
+    private static int fled(int x, int y, int foeX, int foeY) {
+        GrassField field = twoFoes("flee", 1, 16 * y + x, 16 * foeY + foeX);
+        field.run(1);
+        return field.look(0, 1);
     }
 
     private static void joins() {
@@ -212,6 +223,14 @@ public final class FightTest {
         Check.is("at the friend's cell", x.look(0, 1), 140);
         x.run(1);
         Check.is("and there one stays", x.look(0, 1), 140);
+        GrassField up = new GrassField();
+        up.gun(1, 0, 1870, 1);
+        up.gun(1, 0, 1870, 1);
+        Check.law(up, "join");
+        up.person(0, 16 * 6 + 6, 0, -1);
+        up.person(1, 16 * 8 + 8, 0, 0);
+        up.run(1);
+        Check.is("up and to the left", up.look(1, 1), 16 * 7 + 7);
     }
 
     private static void holdsAndDrops() {
@@ -282,6 +301,18 @@ public final class FightTest {
         Check.yes("armed", isTrue("armed"));
         Check.no("alone", isTrue("alone"));
         Check.yes("not alone", isTrue("not alone"));
+        Check.no("not armed", isTrue("not armed"));
+        Check.no("alone and armed", isTrue("alone and armed"));
+        Check.yes("armed and armed", isTrue("armed and armed"));
+        Check.yes("armed or alone or alone", isTrue("armed or alone or alone"));
+        Check.no("alone or alone", isTrue("alone or alone"));
+        Check.no("armed and (alone or alone)", isTrue("armed and (alone or alone)"));
+        Check.yes("armed and (alone or armed)", isTrue("armed and (alone or armed)"));
+        Check.no("alone and (armed or armed)", isTrue("alone and (armed or armed)"));
+        Check.yes("deep ones", isTrue("armed and(alone or armed and(alone or armed and(alone or armed and(alone or "
+            + "armed and(alone or armed and(alone or 1 < 2+3*foes))))))"));
+        Check.no("deep ones", isTrue("armed and(alone or armed and(alone or armed and(alone or armed and(alone or "
+            + "armed and(alone or armed and(alone or 5 < 2+3*foes))))))"));
         Check.yes("and binds more than or", isTrue("armed or armed and alone"));
         Check.yes("and binds more than or", isTrue("alone and armed or armed"));
         Check.no("( )", isTrue("(armed or armed) and alone"));
@@ -296,12 +327,28 @@ public final class FightTest {
         Check.no("far without a foe is 99", fearUnder("flee if far > 99", 5) == 5);
         Check.yes("far without a foe is 99", fearUnder("flee if far > 98", 5) == 5);
         Check.yes("alone without friends", fearUnder("flee if alone", 5) == 5);
+        Check.is("the last round is a round", lastRound(), 4);
+        GrassField dropped = new GrassField();
+        dropped.gun(0, 0, 1870, 9);
+        Check.law(dropped, "drop if minute < 2;flee if armed or rounds > 0");
+        dropped.person(0, 0, 5, 0);
+        dropped.run(2);
+        Check.is("not armed without a gun", dropped.look(0, 2), 4);
         GrassField x = new GrassField();
         x.gun(0, 0, 1870, 0);
         Check.law(x, "flee if armed or rounds > 0");
         x.person(0, 0, 5, 0);
         x.run(1);
         Check.is("not armed without rounds", x.look(0, 2), 4);
+    }
+
+    private static int lastRound() {
+        GrassField x = new GrassField();
+        x.gun(0, 0, 1870, 1);
+        Check.law(x, "flee if armed");
+        x.person(0, 0, 4, 0);
+        x.run(1);
+        return x.look(0, 2);
     }
 
     private static void fallenTakeNoTurn() {

@@ -56,6 +56,7 @@ public final class FindsTest {
         x.gun(0, 3, 1870, 0);
         x.found(17, 5, 8);
         x.other(2, 18, 6, 200);
+        Check.is("not seen", x.about(0, 4), 0);
         x.walk(1);
         x.when(0, 7, 9);
         int[] ofCase = {0, 17, 5, 8, 1, 5, 7, 9};

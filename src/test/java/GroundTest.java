@@ -27,6 +27,8 @@ public final class GroundTest {
         Check.is("not in it", x.height(16), 0);
         x.ground(0, 255, 1);
         Check.is("the whole field", x.height(200), 1);
+        x.ground(200, 200, 0);
+        Check.is("flat again", x.height(200), 0);
     }
 
     private static void wrongInputs() {
@@ -54,6 +56,13 @@ public final class GroundTest {
         Check.yes("just over it to a height", x.sees(0, 10));
         x.ground(10, 10, 3);
         Check.no("a little below", x.sees(0, 10));
+        GrassField own = new GrassField();
+        own.ground(0, 0, 2);
+        own.ground(3, 3, 1);
+        Check.no("from a hill over one that is far from it", own.sees(0, 4));
+        own.ground(3, 3, 0);
+        own.ground(2, 2, 1);
+        Check.yes("and over one that is just as high as the sight", own.sees(0, 4));
         GrassField y = new GrassField();
         y.ground(17, 17, 1);
         Check.no("0 to 18 goes by 17, for halves go up", y.sees(0, 18));

@@ -133,10 +133,43 @@ public final class ImageTest {
             Check.yes("back", x.back());
             Check.is("all is as it was", print(x), before);
         }
+        peopleComeBack();
         GrassField y = full();
         x.run(30);
         y.run(30);
         Check.is("laws and draws go on alike", print(x), print(y));
+    }
+
+    /** One flees, one shoots and drops its gun, one falls: all stand again as they stood. */
+    private static void peopleComeBack() {
+        GrassField x = new GrassField();
+        x.gun(0, 1, 1870, 9);
+        x.gun(1, 2, 1870, 8);
+        x.gun(0, 3, 1870, 7);
+        Check.law(x, "flee");
+        Check.law(x, "shoot if minute < 2;drop");
+        x.person(0, 100, 3, 0);
+        x.person(1, 103, 3, 1);
+        x.person(2, 104, 3, -1);
+        long before = print(x);
+        x.image();
+        for (int i = 0; i < 2; i++) {
+            x.run(4);
+            Check.no("one fled", x.look(0, 1) == 100);
+            Check.is("one has no gun", x.look(1, 0), GrassField.NONE);
+            Check.is("one fell", x.look(2, 3), 0);
+            Check.is("a case, a ball and bones behind what was found", x.count(4), 3 + 2 * i);
+            Check.yes("back", x.back());
+            Check.is("all stand again", print(x), before);
+            x.found(7, 7, 7);
+            x.other(3, 8, 8, 1888);
+        }
+        Check.yes("back", x.back());
+        x.run(4);
+        Check.is("what is left anew is a case", x.about(0, 0), 0);
+        Check.is("where it was shot", x.about(0, 1), 103);
+        Check.is("at its depth", x.about(0, 2), 1);
+        Check.is("with its mark", x.about(0, 3), 4);
     }
 
     private static void whatTheImageLeaves() {

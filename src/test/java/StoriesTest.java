@@ -104,6 +104,7 @@ public final class StoriesTest {
         x.tells(0, 3, 3);
         x.tells(0, 3, 30);
         x.tells(0, 14, 3);
+        x.tells(0, 12, 3);
         return x;
     }
 
@@ -120,6 +121,8 @@ public final class StoriesTest {
         Check.yes("guns", isTrue("guns > 1 and guns < 3"));
         Check.yes("fits", isTrue("fits > 1 and fits < 3"));
         Check.yes("heaps", isTrue("heaps > 0 and heaps < 2"));
+        Check.yes("a whole tape: 12 < 199", isTrue("12<1" + "+1".repeat(198)));
+        Check.no("a whole tape: 199 < 198", isTrue("199<1" + "+1".repeat(197)));
         Check.yes("sums", isTrue("2*cases+balls > 13"));
         Check.no("sums", isTrue("2*cases+balls > 14"));
         GrassField x = new GrassField();

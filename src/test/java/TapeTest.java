@@ -135,6 +135,12 @@ public final class TapeTest {
         wrong(ten + " ; hold", 52);
         wrong(ten + "; 12345", 51);
         wrong(ten + ";;", 50);
+        wrong("?".repeat(400), 0);
+        wrong("flee" + " ".repeat(395) + ";", 400);
+        right(" ".repeat(400));
+        right("flee if 1<1" + "+1".repeat(194) + " ");
+        wrong("flee if 1<1" + "+1".repeat(194) + "+", 400);
+        wrong("flee if ((((((" + "(".repeat(386), 14);
     }
 
     private static void depths() {

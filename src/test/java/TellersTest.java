@@ -98,6 +98,12 @@ public final class TellersTest {
         Check.yes("and the other way", x.talked(1, 0));
         Check.no("unlike listeners", x.talked(0, 2));
         Check.no("with itself", x.talked(1, 1));
+        GrassField first = new GrassField();
+        first.teller(0, 0, 9, 4);
+        first.teller(9, 0, 9, 4);
+        first.tells(0, 7, 1);
+        first.tells(1, 7, 1);
+        Check.yes("by the first telling", first.talked(0, 1));
         Check.refuses("teller 3", Check.INDEX, () -> x.talked(0, 3));
         Check.refuses("teller -1", Check.INDEX, () -> x.talked(-1, 0));
     }
