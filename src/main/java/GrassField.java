@@ -294,7 +294,6 @@ public final class GrassField {
     public int still(int from, int to) throws IndexOutOfBoundsException {
         needCell(from);
         needCell(to);
-        study.refresh();
         return study.mostUnseen(from, to);
     }
 

@@ -150,7 +150,8 @@ public final class StoriesTest {
         Check.story(x, "held 4", 1);
         Check.yes("steps 2 3 3 4", x.holds(0));
         Check.no("steps 2 3 3 4", x.holds(1));
-        Check.story(new GrassField(), "held 0", 1);
+        Check.story(x, "held 0", 1);
+        Check.yes("no step at all", x.holds(2));
     }
 
     private static void oddsOfStories() {
@@ -168,7 +169,6 @@ public final class StoriesTest {
         Check.is("99 of 102", x.odds(3), 9705);
         Check.refuses("story 4", Check.INDEX, () -> x.odds(4));
         Check.refuses("story -1", Check.INDEX, () -> x.odds(-1));
-        x.machine(0, 0);
         GrassField none = new GrassField();
         Check.story(none, "cases > 0", 9);
         Check.is("none holds", none.odds(0), 0);
