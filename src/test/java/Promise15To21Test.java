@@ -350,10 +350,13 @@ public final class Promise15To21Test {
     }
 
     private static void promise19RowsDoNotGoRound() {
-        GrassField x = ladder();
-        x.machine(0, 3);
-        Check.is("row 0 and the three below", x.walk(0), 4);
-        Check.is("row 15 and the three above", x.walk(15), 4);
+        for (int row : new int[] {0, 15}) {
+            GrassField x = ladder();
+            x.machine(0, 3);
+            Check.is("row " + row + " and three beside it", x.walk(row), 4);
+            Check.is("row " + (15 - row) + " is not seen by it", x.about(row == 0 ? 24 : 10, 4), 0);
+            Check.is("it brings four more", x.walk(15 - row), 4);
+        }
     }
 
     private static void promise19ItCountsAtOnceForAllThatWasWalked() {
